@@ -42,7 +42,7 @@ public final class ThriftNode {
     private int powerFailures;
     private int abandoned;
     private int replayed;
-    private int commitStep;
+    private int commitSteps;
     private boolean noteIsDue;
 
     public ThriftNode() {
@@ -66,7 +66,7 @@ public final class ThriftNode {
     }
 
     public int slot(int harvest) throws IllegalStateException, IllegalArgumentException {
-        if (!code.sealed) {
+        if (!code.isClosed) {
             throw new IllegalStateException("the program is not sealed");
         }
         if (harvest < 0 || harvest > MOST_HARVEST) {
@@ -77,7 +77,13 @@ public final class ThriftNode {
         if (phase == OFF && !boot()) {
             return NONE;
         }
-        return stepsOfThisSlot();
+        int done = 0;
+        for (int k = 0; k < STEPS_IN_A_SLOT && phase != OFF; k++) {
+            if (step()) {
+                done++;
+            }
+        }
+        return done;
     }
 
     public boolean cut(int n) {
@@ -97,10 +103,10 @@ public final class ThriftNode {
     }
 
     public int kept(int at, boolean wear) throws IndexOutOfBoundsException {
-        if (!store.has(at)) {
+        if (at < 0 || at >= Store.SIZE) {
             throw new IndexOutOfBoundsException("there is no such kept word");
         }
-        return wear ? store.wearAt(at) : store.wordAt(at);
+        return wear ? store.wears[at] : store.words[at];
     }
 
     public int aired(int k, int what) {
@@ -108,10 +114,10 @@ public final class ThriftNode {
     }
 
     public int heard(int number) throws IndexOutOfBoundsException {
-        if (!radio.keeps(number)) {
+        if (!radio.farSideHas(number)) {
             throw new IndexOutOfBoundsException("the far side has no such frame");
         }
-        return radio.payloadKept(number);
+        return radio.payloadOfFarSide(number);
     }
 
     public int state(int what) {
@@ -123,9 +129,9 @@ public final class ThriftNode {
             case 2:
                 return slotNumber;
             case 3:
-                return inAttempt() ? attempt.spent : 0;
+                return isInAttempt() ? attempt.spent : 0;
             case 4:
-                return inAttempt() ? attempt.pending.count : 0;
+                return isInAttempt() ? attempt.pending.count : 0;
             case 5:
                 return phase == RUN ? attempt.next : 0;
             case 6:
@@ -151,28 +157,29 @@ public final class ThriftNode {
             case 1:
                 return failures[t];
             case 2:
-                return code.lengthOf(t);
+                return code.lengths[t];
             default:
                 return NONE;
         }
     }
 
     public int register(int k) {
-        if (!inAttempt() || k < 0 || k >= REGISTERS) {
+        if (!isInAttempt() || k < 0 || k >= REGISTERS) {
             return 0;
         }
         return attempt.registers[k];
     }
 
-    private boolean inAttempt() {
+    private boolean isInAttempt() {
         return phase == RUN || phase == COMMIT;
     }
 
-    /** The task in TASK; only tasks that the seal has found come there, the mask keeps indexes safe. */
+    /** Only tasks that the seal has found come to TASK; the mask keeps the index safe all the same. */
     private int currentTask() {
-        return store.wordAt(Store.TASK) & (TASKS - 1);
+        return store.words[Store.TASK] & (TASKS - 1);
     }
 
+    /** True if there was enough energy for it. */
     private boolean boot() {
         int needed = Math.min(MOST_ENERGY, estimates[currentTask()] + BOOT_COST);
         if (givenUp != NONE || energy < needed) {
@@ -181,26 +188,15 @@ public final class ThriftNode {
         energy -= BOOT_COST;
         replayed = 0;
         noteIsDue = false;
-        phase = store.wordAt(Store.MARK) != 0 ? REPLAY : AIR;
+        phase = store.words[Store.MARK] != 0 ? REPLAY : AIR;
         return true;
-    }
-
-    private int stepsOfThisSlot() {
-        int done = 0;
-        while (done < STEPS_IN_A_SLOT && phase != OFF) {
-            if (!step()) {
-                break;
-            }
-            done++;
-        }
-        return done;
     }
 
     /** True if the step was done, false if the power failed in its place. */
     private boolean step() {
-        // An attempt begins without a step of its own, so a first instruction that can't be paid
-        // is already a failure of its task.
-        if (phase == AIR && !store.hasUnsent()) {
+        // An attempt begins without a step of its own, so a first instruction that can't be paid is
+        // a failure of its task already.
+        if (phase == AIR && !store.hasFramesToAir()) {
             attempt.begin(currentTask());
             phase = RUN;
         }
@@ -209,41 +205,41 @@ public final class ThriftNode {
             failPower();
             return false;
         }
-        energy -= cost;
-        if (inAttempt()) {
-            attempt.spent += cost;
-        }
-        doStep();
-        countTowardsCut();
-        return true;
-    }
-
-    private int costOfStep() {
-        if (phase == RUN) {
-            return Code.costOf(instruction());
-        }
-        return phase == AIR && !noteIsDue ? AIR_COST : WRITE_COST;
-    }
-
-    private int instruction() {
-        return code.wordAt(attempt.task, attempt.next);
-    }
-
-    private void doStep() {
+        pay(cost);
         switch (phase) {
             case REPLAY:
-                replayStep();
+                doReplayStep();
                 break;
             case AIR:
-                airStep();
+                doAirStep();
                 break;
             case RUN:
-                runStep();
+                doInstruction(nextInstruction());
                 break;
             default:
                 doCommitStep();
                 break;
         }
+        countTowardsCut();
+        return true;
+    }
+
+    private void pay(int cost) {
+        energy -= cost;
+        if (isInAttempt()) {
+            attempt.spent += cost;
+        }
+    }
+
+    private int costOfStep() {
+        if (phase == RUN) {
+            return Code.costOf(nextInstruction());
+        }
+        return phase == AIR && !noteIsDue ? AIR_COST : WRITE_COST;
+    }
+
+    private int nextInstruction() {
+        return code.wordAt(attempt.task, attempt.next);
     }
 
     private void countTowardsCut() {
@@ -256,8 +252,8 @@ public final class ThriftNode {
         }
     }
 
-    private void replayStep() {
-        if (replayed < store.wordAt(Store.MARK)) {
+    private void doReplayStep() {
+        if (replayed < store.words[Store.MARK]) {
             store.applyEntry(replayed);
             replayed++;
         } else {
@@ -266,45 +262,58 @@ public final class ThriftNode {
         }
     }
 
-    private void airStep() {
-        int sent = store.wordAt(Store.SENT);
+    private void doAirStep() {
+        int sent = store.words[Store.SENT];
         if (noteIsDue) {
             store.write(Store.SENT, sent + 1);
         } else {
-            radio.putOnAir(sent, store.wordAt(Store.payloadOf(sent)));
+            radio.putOnAir(sent, store.words[Store.payloadOf(sent)]);
         }
         noteIsDue = !noteIsDue;
     }
 
-    private void runStep() {
-        int outcome = attempt.run(instruction(), slotNumber);
-        if (outcome == Attempt.ENDS) {
-            attempt.pending.close(attempt.taskBehind, store.wordAt(Store.COMMITS) + 1);
-            commitStep = 0;
-            phase = COMMIT;
-        } else if (outcome == Attempt.IS_ABANDONED) {
-            abandoned++;
-            phase = AIR;
+    private void doInstruction(int word) {
+        int a = Code.a(word);
+        attempt.next++;
+        switch (Code.op(word)) {
+            case Code.END:
+                attempt.pending.close(a, store.words[Store.COMMITS] + 1);
+                commitSteps = 0;
+                phase = COMMIT;
+                break;
+            case Code.BIND:
+                attempt.bind(slotNumber);
+                break;
+            case Code.BOUND:
+                if (attempt.isTooLate(slotNumber, a)) {
+                    abandoned++;
+                    phase = AIR;
+                }
+                break;
+            default:
+                attempt.work(word);
+                break;
         }
     }
 
     private void doCommitStep() {
-        Pending list = attempt.pending;
-        int entries = list.entries();
-        int applied = commitStep - 2 * entries - 1;
-        if (applied < -1) {
-            store.write(Store.LIST + commitStep, list.listWord(commitStep));
-        } else if (applied == -1) {
+        int entries = attempt.pending.entries();
+        int listWords = 2 * entries;
+        int behindMark = commitSteps - listWords - 1;
+        if (commitSteps < listWords) {
+            store.write(Store.LIST + commitSteps, attempt.pending.listWord(commitSteps));
+        } else if (commitSteps == listWords) {
             store.write(Store.MARK, entries);
-        } else if (applied < entries) {
-            store.applyEntry(applied);
+        } else if (behindMark < entries) {
+            store.applyEntry(behindMark);
         } else {
             store.write(Store.MARK, 0);
             finishAttempt();
         }
-        commitStep++;
+        commitSteps++;
     }
 
+    /** TASK is the next one by now: what was spent belongs to the task that the attempt began with. */
     private void finishAttempt() {
         int t = attempt.task;
         estimates[t] = Math.max(estimates[t], attempt.spent);
@@ -314,14 +323,15 @@ public final class ThriftNode {
 
     private void failPower() {
         // Behind a written MARK the attempt's work is safe: the replay brings it to its end.
-        if (phase == RUN || phase == COMMIT && store.wordAt(Store.MARK) == 0) {
-            countFailureOf(attempt.task);
+        if (phase == RUN || phase == COMMIT && store.words[Store.MARK] == 0) {
+            countFailure();
         }
         powerFailures++;
         phase = OFF;
     }
 
-    private void countFailureOf(int t) {
+    private void countFailure() {
+        int t = attempt.task;
         failures[t]++;
         int doubled = 2 * Math.max(estimates[t], attempt.spent);
         estimates[t] = Math.min(MOST_ESTIMATE_OF_A_FAILURE, doubled);
@@ -332,8 +342,6 @@ public final class ThriftNode {
 
     /** The instructions of all tasks, and what the seal asks of them. */
     private static final class Code {
-        static final int MOST_INSTRUCTIONS = 32;
-
         static final int END = 0;
         static final int SET = 1;
         static final int ADD = 2;
@@ -353,8 +361,10 @@ public final class ThriftNode {
         static final int BIND = 16;
         static final int BOUND = 17;
 
-        // One column for each OP, 0 .. 17. A greatest operand of 255 is one that needs no look, or
-        // one that is looked at apart (the task behind END, the instruction behind ZERO and GO).
+        private static final int MOST_INSTRUCTIONS = 32;
+
+        // One column for each OP. A greatest operand of 255 is one that needs no look, or one that
+        // is looked at apart: the task behind END, the instruction behind ZERO and GO.
         private static final int[] COSTS =
             {1, 1, 1, 1, 4, 1, 1, 1, 2, 2, 2, 2, 3, 3, 10, 3, 1, 1};
         private static final int[] MOST_A =
@@ -366,7 +376,7 @@ public final class ThriftNode {
 
         final int[] words;
         final int[] lengths;
-        boolean sealed;
+        boolean isClosed;
 
         Code() {
             words = new int[TASKS * MOST_INSTRUCTIONS];
@@ -395,13 +405,14 @@ public final class ThriftNode {
         }
 
         boolean put(int t, int i, int word) {
-            if (sealed || t < 0 || t >= TASKS || i < 0 || i >= MOST_INSTRUCTIONS || i > lengths[t]) {
+            if (isClosed || t < 0 || t >= TASKS) {
+                return false;
+            }
+            if (i < 0 || i >= MOST_INSTRUCTIONS || i > lengths[t]) {
                 return false;
             }
             words[t * MOST_INSTRUCTIONS + i] = word;
-            if (i == lengths[t]) {
-                lengths[t]++;
-            }
+            lengths[t] = Math.max(lengths[t], i + 1);
             return true;
         }
 
@@ -413,13 +424,13 @@ public final class ThriftNode {
             return i < 0 || i >= lengthOf(t) ? 0 : words[t * MOST_INSTRUCTIONS + i];
         }
 
-        /** Seals if there is no fault: 0; else 1 more than the place of the first fault. */
+        /** Closes if there is no fault: 0; else 1 more than the place of the first fault. */
         int close() {
-            if (sealed) {
+            if (isClosed) {
                 return 0;
             }
             int fault = firstFault();
-            sealed = fault == NONE;
+            isClosed = fault == NONE;
             return fault + 1;
         }
 
@@ -430,7 +441,7 @@ public final class ThriftNode {
             for (int t = 0; t < TASKS; t++) {
                 for (int i = 0; i < lengths[t]; i++) {
                     int place = t * MOST_INSTRUCTIONS + i;
-                    if (isFaulty(words[place], lengths[t], i == lengths[t] - 1)) {
+                    if (isFault(words[place], i, lengths[t])) {
                         return place;
                     }
                 }
@@ -438,7 +449,7 @@ public final class ThriftNode {
             return NONE;
         }
 
-        private boolean isFaulty(int word, int length, boolean last) {
+        private boolean isFault(int word, int i, int length) {
             int op = op(word);
             if (op > BOUND) {
                 return true;
@@ -449,10 +460,10 @@ public final class ThriftNode {
             if (op == END) {
                 return lengthOf(a(word)) == 0;
             }
-            if ((op == GO || op == ZERO) && b(word) >= length) {
+            if ((op == ZERO || op == GO) && b(word) >= length) {
                 return true;
             }
-            return last && op != GO;
+            return i == length - 1 && op != GO;
         }
     }
 
@@ -469,7 +480,7 @@ public final class ThriftNode {
         static final int QUEUES = 56;
         static final int PAYLOADS = 68;
         static final int LIST = 84;
-        static final int MOST_UNSENT = 16;
+        static final int MOST_FRAMES_TO_AIR = 16;
 
         final int[] words;
         final int[] wears;
@@ -480,94 +491,78 @@ public final class ThriftNode {
         }
 
         static int payloadOf(int frame) {
-            return PAYLOADS + (frame & (MOST_UNSENT - 1));
+            return PAYLOADS + (frame & (MOST_FRAMES_TO_AIR - 1));
         }
 
-        boolean has(int at) {
-            return at >= 0 && at < SIZE;
-        }
-
-        int wordAt(int at) {
-            return has(at) ? words[at] : 0;
-        }
-
-        int wearAt(int at) {
-            return has(at) ? wears[at] : 0;
+        boolean hasFramesToAir() {
+            return words[SENT] < words[NUMBER];
         }
 
         void write(int at, int what) {
-            if (has(at)) {
+            if (at >= 0 && at < SIZE) {
                 words[at] = what;
                 wears[at]++;
             }
         }
 
-        boolean hasUnsent() {
-            return words[SENT] < words[NUMBER];
-        }
-
         void applyEntry(int entry) {
             int at = LIST + 2 * entry;
-            write(wordAt(at), wordAt(at + 1));
+            if (at >= LIST && at + 1 < SIZE) {
+                write(words[at], words[at + 1]);
+            }
         }
     }
 
-    /** What an attempt has written, in the order of the first writes; kept words stay below it. */
+    /** What an attempt has written, in the order of the first writes; the kept words stay below it. */
     private static final class Pending {
         static final int MOST = 38;
 
         final Store store;
         final int[] places;
         final int[] values;
+        // For each kept word 1 more than the entry that stands over it, 0 if there is none.
+        final int[] entryOver;
         int count;
 
         Pending(Store store) {
             this.store = store;
             places = new int[MOST + 2];
             values = new int[MOST + 2];
+            entryOver = new int[Store.SIZE];
         }
 
         void clear() {
+            for (int k = 0; k < count; k++) {
+                entryOver[places[k]] = 0;
+            }
             count = 0;
         }
 
         int read(int at) {
-            int entry = find(at);
-            return entry < count ? values[entry] : store.wordAt(at);
+            int entry = entryOver[at] - 1;
+            return entry >= 0 ? values[entry] : store.words[at];
         }
 
         boolean hasRoomFor(int at) {
-            return find(at) < count || count < MOST;
+            return entryOver[at] != 0 || count < MOST;
         }
 
-        boolean hasRoomFor(int at, int other) {
-            int fresh = (find(at) < count ? 0 : 1) + (find(other) < count ? 0 : 1);
+        boolean hasRoomForBoth(int at, int other) {
+            int fresh = (entryOver[at] == 0 ? 1 : 0) + (entryOver[other] == 0 ? 1 : 0);
             return count + fresh <= MOST;
         }
 
-        /** The caller has asked for the room. */
+        /** Whoever writes has asked for the room. */
         void write(int at, int what) {
-            int entry = find(at);
-            if (entry >= MOST) {
-                return;
-            }
-            places[entry] = at;
-            values[entry] = what;
-            if (entry == count) {
+            if (entryOver[at] == 0) {
+                places[count] = at;
                 count++;
+                entryOver[at] = count;
             }
+            values[entryOver[at] - 1] = what;
         }
 
-        /** Where the word stands among the entries; count if it is not there. */
-        private int find(int at) {
-            int entry = 0;
-            while (entry < count && places[entry] != at) {
-                entry++;
-            }
-            return entry;
-        }
-
-        /** The two entries of every commit come behind the pending words, and do not count as such. */
+        /** Every commit has two entries behind the pending words, which do not count as such. */
         void close(int nextTask, int commits) {
             places[count] = Store.TASK;
             values[count] = nextTask;
@@ -579,35 +574,26 @@ public final class ThriftNode {
             return count + 2;
         }
 
-        /** Word k of the LIST that the entries make. */
         int listWord(int k) {
-            int entry = k / 2;
-            if (k < 0 || entry >= entries()) {
-                return 0;
-            }
-            return k % 2 == 0 ? places[entry] : values[entry];
+            return k % 2 == 0 ? places[k / 2] : values[k / 2];
         }
     }
 
-    /** One try at a task. Operands are used as they are: the seal has looked at each of them. */
+    /** One try at a task. It uses operands as they are, for the seal has looked at each of them. */
     private static final class Attempt {
-        static final int GOES_ON = 0;
-        static final int ENDS = 1;
-        static final int IS_ABANDONED = 2;
-
-        private static final int FLAG = 7;
+        // PUSH, POP and SEND tell in this register whether they were done.
+        private static final int DONE = 7;
         private static final int WORDS_IN_A_ROW = 8;
         private static final int WORDS_IN_A_QUEUE = 6;
         private static final int PLACES_IN_A_QUEUE = 4;
 
-        final Pending pending;
         final Store store;
+        final Pending pending;
         final int[] readings;
         final int[] registers;
         int task;
         int next;
         int spent;
-        int taskBehind;
         int boundSlot;
         boolean isBound;
 
@@ -629,38 +615,24 @@ public final class ThriftNode {
             }
         }
 
-        int run(int word, int slotNumber) {
-            int a = Code.a(word);
-            next++;
-            switch (Code.op(word)) {
-                case Code.END:
-                    taskBehind = a;
-                    return ENDS;
-                case Code.ZERO:
-                    if (registers[a] == 0) {
-                        next = Code.b(word);
-                    }
-                    return GOES_ON;
-                case Code.GO:
-                    next = Code.b(word);
-                    return GOES_ON;
-                case Code.BIND:
-                    isBound = true;
-                    boundSlot = slotNumber;
-                    return GOES_ON;
-                case Code.BOUND:
-                    return isBound && slotNumber - boundSlot > a ? IS_ABANDONED : GOES_ON;
-                case Code.SET:
-                    registers[a] = (short) word;
-                    return GOES_ON;
-                default:
-                    work(word, a, Code.b(word), Code.c(word));
-                    return GOES_ON;
-            }
+        void bind(int slotNumber) {
+            isBound = true;
+            boundSlot = slotNumber;
         }
 
-        private void work(int word, int a, int b, int c) {
+        boolean isTooLate(int slotNumber, int slots) {
+            return isBound && slotNumber - boundSlot > slots;
+        }
+
+        /** The instructions that neither end the attempt nor look at the slot. */
+        void work(int word) {
+            int a = Code.a(word);
+            int b = Code.b(word);
+            int c = Code.c(word);
             switch (Code.op(word)) {
+                case Code.SET:
+                    registers[a] = (short) word;
+                    break;
                 case Code.ADD:
                     registers[a] = registers[b] + registers[c];
                     break;
@@ -673,6 +645,15 @@ public final class ThriftNode {
                 case Code.XOR:
                     registers[a] = registers[b] ^ registers[c];
                     break;
+                case Code.ZERO:
+                    next = registers[a] == 0 ? b : next;
+                    break;
+                case Code.GO:
+                    next = b;
+                    break;
+                case Code.SENSE:
+                    registers[a] = readings[b];
+                    break;
                 case Code.GET:
                     registers[a] = pending.read(Store.CELLS + b);
                     break;
@@ -680,19 +661,16 @@ public final class ThriftNode {
                     writeIfRoom(Store.CELLS + b, registers[a]);
                     break;
                 case Code.LOAD:
-                    registers[a] = pending.read(rowWord(b, c));
+                    registers[a] = pending.read(wordOfRow(b, registers[c]));
                     break;
                 case Code.STORE:
-                    writeIfRoom(rowWord(b, c), registers[a]);
+                    writeIfRoom(wordOfRow(b, registers[c]), registers[a]);
                     break;
                 case Code.PUSH:
                     push(registers[a], Store.QUEUES + b * WORDS_IN_A_QUEUE);
                     break;
                 case Code.POP:
                     pop(a, Store.QUEUES + b * WORDS_IN_A_QUEUE);
-                    break;
-                case Code.SENSE:
-                    registers[a] = readings[b];
                     break;
                 case Code.SEND:
                     send(registers[a]);
@@ -702,8 +680,12 @@ public final class ThriftNode {
             }
         }
 
-        private int rowWord(int row, int c) {
-            return Store.ROWS + row * WORDS_IN_A_ROW + (registers[c] & (WORDS_IN_A_ROW - 1));
+        private static int wordOfRow(int row, int k) {
+            return Store.ROWS + row * WORDS_IN_A_ROW + (k & (WORDS_IN_A_ROW - 1));
+        }
+
+        private static int placeOfQueue(int queue, int k) {
+            return queue + 2 + (k & (PLACES_IN_A_QUEUE - 1));
         }
 
         private void writeIfRoom(int at, int what) {
@@ -712,70 +694,59 @@ public final class ThriftNode {
             }
         }
 
-        /** Both words or none: whether they were written is told by register 7. */
-        private boolean writeBothIfRoom(int at, int what, int countAt, int count) {
-            boolean room = pending.hasRoomFor(at, countAt);
-            if (room) {
-                pending.write(at, what);
-                pending.write(countAt, count);
+        /** Both words or none of them; true for both. */
+        private boolean writeBothIfRoom(int at, int what, int other, int whatOther) {
+            if (!pending.hasRoomForBoth(at, other)) {
+                return false;
             }
-            registers[FLAG] = room ? 1 : 0;
-            return room;
-        }
-
-        private int placeInQueue(int queue, int k) {
-            return queue + 2 + (k & (PLACES_IN_A_QUEUE - 1));
+            pending.write(at, what);
+            pending.write(other, whatOther);
+            return true;
         }
 
         private void push(int what, int queue) {
             int first = pending.read(queue);
             int many = pending.read(queue + 1);
-            if (many >= PLACES_IN_A_QUEUE) {
-                registers[FLAG] = 0;
-            } else {
-                writeBothIfRoom(placeInQueue(queue, first + many), what, queue + 1, many + 1);
-            }
+            boolean done = many < PLACES_IN_A_QUEUE
+                && writeBothIfRoom(placeOfQueue(queue, first + many), what, queue + 1, many + 1);
+            registers[DONE] = done ? 1 : 0;
         }
 
         private void pop(int a, int queue) {
             int first = pending.read(queue);
             int many = pending.read(queue + 1);
-            if (many <= 0) {
+            boolean done = many > 0
+                && writeBothIfRoom(queue, (first + 1) & (PLACES_IN_A_QUEUE - 1), queue + 1, many - 1);
+            if (done) {
+                registers[a] = pending.read(placeOfQueue(queue, first));
+            } else if (many == 0) {
                 registers[a] = 0;
-                registers[FLAG] = 0;
-                return;
             }
-            int what = pending.read(placeInQueue(queue, first));
-            int behind = first + 1 & PLACES_IN_A_QUEUE - 1;
-            if (writeBothIfRoom(queue, behind, queue + 1, many - 1) && a != FLAG) {
-                registers[a] = what;
-            }
+            registers[DONE] = done ? 1 : 0;
         }
 
         private void send(int payload) {
             int number = pending.read(Store.NUMBER);
-            if (number - store.wordAt(Store.SENT) >= Store.MOST_UNSENT) {
-                registers[FLAG] = 0;
-            } else {
-                writeBothIfRoom(Store.payloadOf(number), payload, Store.NUMBER, number + 1);
-            }
+            boolean done = number - store.words[Store.SENT] < Store.MOST_FRAMES_TO_AIR
+                && writeBothIfRoom(Store.payloadOf(number), payload, Store.NUMBER, number + 1);
+            registers[DONE] = done ? 1 : 0;
         }
     }
 
-    /** The frames on the air, and what the far side has heard of them. */
+    /** The frames on the air, and what the far side keeps of them. */
     private static final class Radio {
-        static final int LATEST = 64;
+        private static final int LATEST = 64;
 
         final int[] numbers;
         final int[] payloads;
-        final int[] kept;
+        final int[] payloadsOfFarSide;
         int frames;
         int numbersHeard;
 
         Radio() {
             numbers = new int[LATEST];
             payloads = new int[LATEST];
-            kept = new int[LATEST];
+            payloadsOfFarSide = new int[LATEST];
         }
 
         void putOnAir(int number, int payload) {
@@ -783,9 +754,9 @@ public final class ThriftNode {
             numbers[at] = number;
             payloads[at] = payload;
             frames++;
-            // Numbers come to the air in their order, so a lower one is a repeat.
+            // Numbers come to the air in their order, so any but the next one is a repeat.
             if (number == numbersHeard) {
-                kept[number & (LATEST - 1)] = payload;
+                payloadsOfFarSide[number & (LATEST - 1)] = payload;
                 numbersHeard++;
             }
         }
@@ -794,16 +765,16 @@ public final class ThriftNode {
             if (k < 0 || k >= LATEST || k >= frames || what < 0 || what > 1) {
                 return NONE;
             }
-            int at = frames - 1 - k & LATEST - 1;
+            int at = (frames - 1 - k) & (LATEST - 1);
             return what == 0 ? numbers[at] : payloads[at];
         }
 
-        boolean keeps(int number) {
+        boolean farSideHas(int number) {
             return number >= 0 && number < numbersHeard && number >= numbersHeard - LATEST;
         }
 
-        int payloadKept(int number) {
-            return kept[number & (LATEST - 1)];
+        int payloadOfFarSide(int number) {
+            return payloadsOfFarSide[number & (LATEST - 1)];
         }
     }
 }
