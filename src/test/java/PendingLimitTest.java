@@ -10,6 +10,7 @@ public final class PendingLimitTest {
         rowsAtTheLimit();
         queuesAtTheLimit();
         queuesJustBelowTheLimit();
+        queuesWithinTheLimit();
         emptyAndFullQueuesAtTheLimit();
         framesAtTheLimit();
         theWholeListIsCommitted();
@@ -89,6 +90,19 @@ public final class PendingLimitTest {
             Asm.pop(6, 0), Asm.add(5, 7, 3), Asm.set(4, 9), Asm.pop(4, 0))));
         Asm.registers(z, "37 words, POP", 70, 8, 1, 0, 0, 1, 70, 0);
         Due.is("state(4)", z.state(4), 38);
+    }
+
+    /** With 38 words, what takes no further one is done as ever. */
+    private static void queuesWithinTheLimit() {
+        ThriftNode x = held(Asm.join(allRows(), cells(2), Asm.code(Asm.set(0, 70), Asm.push(0, 0), Asm.set(0, 71),
+            Asm.push(0, 0), Asm.pop(4, 0), Asm.set(7, 5), Asm.pop(5, 0))));
+        Asm.registers(x, "38 words, POP again", 71, 8, 1, 0, 70, 71, 0, 1);
+        Due.is("state(4)", x.state(4), 38);
+        ThriftNode y = held(Asm.join(allRows(), Asm.code(Asm.set(0, 70), Asm.push(0, 1), Asm.push(0, 1), Asm.push(0, 1),
+            Asm.push(0, 1), Asm.pop(4, 1), Asm.set(0, 75), Asm.set(7, 5), Asm.push(0, 1), Asm.add(6, 7, 3),
+            Asm.pop(5, 1), Asm.pop(5, 1), Asm.pop(5, 1), Asm.pop(5, 1))));
+        Asm.registers(y, "38 words, PUSH to a place that is pending", 75, 8, 1, 0, 70, 75, 1, 1);
+        Due.is("state(4)", y.state(4), 38);
     }
 
     private static void emptyAndFullQueuesAtTheLimit() {

@@ -26,9 +26,9 @@ public final class RunsBesidePlainNodeTest {
         for (int seed = 0; seed < RUNS && wrongRuns < 3; seed++) {
             RunsBesidePlainNodeTest run = new RunsBesidePlainNodeTest(seed);
             run.go();
+            Due.is("the run with seed " + seed + " has the same answers", run.same, true);
             wrongRuns += run.same ? 0 : 1;
         }
-        Due.is("runs with another answer", wrongRuns, 0);
         Due.end("RunsBesidePlainNodeTest");
     }
 
