@@ -170,6 +170,16 @@ final class Asm {
         Due.is("state(0) behind the cut", x.state(0), OFF);
     }
 
+    /** How many steps the commit of so many pending words takes: two and one for each entry, MARK twice. */
+    static int commit(int pending) {
+        return 3 * (pending + 2) + 2;
+    }
+
+    static void task(ThriftNode x, String when, int t, int estimate, int failures) {
+        Due.is(when + ": task(" + t + ", 0)", x.task(t, 0), estimate);
+        Due.is(when + ": task(" + t + ", 1)", x.task(t, 1), failures);
+    }
+
     static void registers(ThriftNode x, String when, int... want) {
         for (int k = 0; k < want.length; k++) {
             Due.is(when + ": register(" + k + ")", x.register(k), want[k]);

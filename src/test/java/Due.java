@@ -44,6 +44,10 @@ final class Due {
         }
     }
 
+    static int wrong() {
+        return wrong;
+    }
+
     static void end(String test) {
         System.out.println(test + ": " + looked + " answers, " + wrong + " not as due");
         if (wrong != 0 || looked == 0) {

@@ -13,11 +13,6 @@ public final class P11TaskTest {
         Due.end("P11TaskTest");
     }
 
-    private static void task(ThriftNode x, String when, int t, int estimate, int failures) {
-        Due.is(when + ": task(" + t + ", 0)", x.task(t, 0), estimate);
-        Due.is(when + ": task(" + t + ", 1)", x.task(t, 1), failures);
-    }
-
     private static void noneSuch() {
         ThriftNode x = Asm.sealed(Asm.code(Asm.end(0)));
         for (int t : new int[] {-1, 16, Integer.MIN_VALUE, Integer.MAX_VALUE}) {
@@ -56,49 +51,49 @@ public final class P11TaskTest {
             Asm.stepsAndCut(x, steps[k], 500);
             most = Math.max(most, spent[k]);
             Due.is("COMMITS", x.kept(Asm.COMMITS, false), k + 1);
-            task(x, "reading " + readings[k], 0, most, 0);
+            Asm.task(x, "reading " + readings[k], 0, most, 0);
         }
     }
 
     private static void estimateOfFailures() {
         ThriftNode x = Asm.sealed(Asm.code(Asm.mul(0, 0, 0), Asm.go(0)));
         Asm.stepsAndCut(x, 1, 100);
-        task(x, "4 spent", 0, 8, 1);
+        Asm.task(x, "4 spent", 0, 8, 1);
         Asm.stepsAndCut(x, 1, 100);
-        task(x, "the estimate is more than 4", 0, 16, 2);
+        Asm.task(x, "the estimate is more than 4", 0, 16, 2);
         Asm.stepsAndCut(x, 10, 100);
-        task(x, "25 spent is more than 16", 0, 50, 3);
+        Asm.task(x, "25 spent is more than 16", 0, 50, 3);
         Asm.stepsAndCut(x, 1, 500);
-        task(x, "the estimate is more than 4", 0, 100, 4);
+        Asm.task(x, "the estimate is more than 4", 0, 100, 4);
     }
 
     private static void estimateOfAFailureIsBounded() {
         ThriftNode x = Asm.sealed(Asm.join(Asm.times(10, Asm.sense(0, 0)), Asm.code(Asm.go(0))));
         // 9 times round: 101 each.
         Asm.stepsAndCut(x, 99, 250);
-        task(x, "909 spent", 0, 1818, 1);
+        Asm.task(x, "909 spent", 0, 1818, 1);
         Asm.slots(x, 2, 200, -1);
         while (x.state(1) < 1878 - 200) {
             Due.is("slot(100)", x.slot(100), -1);
         }
         x.cut(1);
         Due.is("slot(500)", x.slot(500), 1);
-        task(x, "at most 1940", 0, 1940, 2);
+        Asm.task(x, "at most 1940", 0, 1940, 2);
         while (x.state(1) < 1900) {
             Due.is("slot(50)", x.slot(50), -1);
         }
         Due.is("slot", x.slot(1999 - x.state(1)), -1);
         x.cut(1);
         Due.is("slot(1)", x.slot(1), 1);
-        task(x, "still", 0, 1940, 3);
+        Asm.task(x, "still", 0, 1940, 3);
         ThriftNode y = Asm.sealed(Asm.code(Asm.sense(0, 0), Asm.mul(0, 0, 0), Asm.go(0)));
         // 970 spent twice is just 1940: 64 times round with 15, and a SENSE.
         Asm.stepsAndCut(y, 3 * 64 + 1, 500);
-        task(y, "970 spent", 0, 1940, 1);
+        Asm.task(y, "970 spent", 0, 1940, 1);
         ThriftNode z = Asm.sealed(Asm.code(Asm.mul(0, 0, 0), Asm.sense(0, 0), Asm.go(0)));
         // 64 times round, and a MUL, and not yet 970.
         Asm.stepsAndCut(z, 3 * 64 + 1, 500);
-        task(z, "964 spent", 0, 1928, 1);
+        Asm.task(z, "964 spent", 0, 1928, 1);
     }
 
     private static void failuresEndWithACommit() {
@@ -107,36 +102,36 @@ public final class P11TaskTest {
         Asm.stepsAndCut(x, 2, 500);
         Asm.stepsAndCut(x, 6, 500);
         // 2, then 4, then twice the 18 of SET, END and four words.
-        task(x, "three failures", 0, 36, 3);
+        Asm.task(x, "three failures", 0, 36, 3);
         Asm.stepsAndCut(x, 9, 500);
-        task(x, "the commit is not over", 0, 36, 3);
+        Asm.task(x, "the commit is not over", 0, 36, 3);
         Due.is("COMMITS", x.kept(Asm.COMMITS, false), 1);
         // The replay takes 3, the next attempt 10.
         Asm.stepsAndCut(x, 12, 500);
-        task(x, "behind a replay, and not over", 0, 36, 3);
+        Asm.task(x, "behind a replay, and not over", 0, 36, 3);
         Asm.stepsAndCut(x, 3 + 10, 500);
-        task(x, "over", 0, 36, 0);
+        Asm.task(x, "over", 0, 36, 0);
     }
 
     private static void failuresOutliveOtherEnds() {
         ThriftNode x = Asm.sealed(Asm.join(Asm.code(Asm.bind()), Asm.times(15, Asm.add(0, 0, 0)),
             Asm.code(Asm.bound(0), Asm.end(0))));
         Asm.stepsAndCut(x, 2, 500);
-        task(x, "a failure", 0, 4, 1);
+        Asm.task(x, "a failure", 0, 4, 1);
         Asm.slots(x, 2, 500, 16);
         Due.is("abandoned", x.state(8), 1);
-        task(x, "an attempt that is abandoned", 0, 4, 1);
+        Asm.task(x, "an attempt that is abandoned", 0, 4, 1);
         // The cut comes right behind the BOUND that abandons: no failure of the task.
         ThriftNode y = Asm.sealed(Asm.join(Asm.code(Asm.bind()), Asm.times(15, Asm.add(0, 0, 0)),
             Asm.code(Asm.bound(0), Asm.end(0))));
         Asm.stepsAndCut(y, 17, 500);
         Due.is("abandoned", y.state(8), 1);
         Due.is("power failures", y.state(7), 1);
-        task(y, "cut behind the BOUND", 0, 0, 0);
+        Asm.task(y, "cut behind the BOUND", 0, 0, 0);
         // The cut comes right behind END, and one before it.
         ThriftNode z = Asm.sealed(Asm.code(Asm.end(0)));
         Asm.stepsAndCut(z, 1, 500);
-        task(z, "cut behind END", 0, 2, 1);
+        Asm.task(z, "cut behind END", 0, 2, 1);
     }
 
     private static void givenUpBehindTwelve() {
@@ -145,10 +140,10 @@ public final class P11TaskTest {
             Asm.slots(x, 1, 0, -1);
             Due.is("slot(60)", x.slot(60), 0);
         }
-        task(x, "eleven", 0, 0, 11);
+        Asm.task(x, "eleven", 0, 0, 11);
         Due.is("state(6)", x.state(6), -1);
         Asm.stepsAndCut(x, 9, 500);
-        task(x, "came through", 0, 33, 0);
+        Asm.task(x, "came through", 0, 33, 0);
         Due.is("state(6)", x.state(6), -1);
         for (int k = 0; k < 12; k++) {
             Due.is("state(6)", x.state(6), -1);
@@ -158,10 +153,10 @@ public final class P11TaskTest {
             x.cut(1);
             Due.is("slot(200)", x.slot(200), 1);
         }
-        task(x, "twelve", 0, 1940, 12);
+        Asm.task(x, "twelve", 0, 1940, 12);
         Due.is("state(6)", x.state(6), 0);
         Asm.slots(x, 12, 500, -1);
-        task(x, "given up", 0, 1940, 12);
+        Asm.task(x, "given up", 0, 1940, 12);
         Due.is("state(7)", x.state(7), 24);
     }
 
@@ -169,13 +164,13 @@ public final class P11TaskTest {
     private static void theTaskThatRan() {
         ThriftNode x = Asm.sealed(Asm.code(Asm.end(3)), Asm.code(), Asm.code(), Asm.code(Asm.set(0, 1), Asm.end(0)));
         Asm.stepsAndCut(x, 9, 500);
-        task(x, "task 0 came through", 0, 33, 0);
-        task(x, "task 3 did not run", 3, 0, 0);
+        Asm.task(x, "task 0 came through", 0, 33, 0);
+        Asm.task(x, "task 3 did not run", 3, 0, 0);
         Asm.stepsAndCut(x, 1, 500);
-        task(x, "task 3 failed", 3, 2, 1);
-        task(x, "task 3 failed", 0, 33, 0);
+        Asm.task(x, "task 3 failed", 3, 2, 1);
+        Asm.task(x, "task 3 failed", 0, 33, 0);
         Asm.stepsAndCut(x, 10, 500);
-        task(x, "task 3 came through", 3, 34, 0);
-        task(x, "task 3 came through", 0, 33, 0);
+        Asm.task(x, "task 3 came through", 3, 34, 0);
+        Asm.task(x, "task 3 came through", 0, 33, 0);
     }
 }
