@@ -126,16 +126,12 @@ final class CommitEdges {
         Asm.wears(y, "one entry", Asm.CELLS, 1, 0);
     }
 
-    /** Register 2 is 1 and register 3 is 0 behind 32 words of the rows; so many cells come behind them. */
+    /** All 32 words of the rows, then cells, are pending; register 1 is 8, 2 is 1 and 3 is 0 by then. */
     private static ThriftNode ran(int pending, int... tail) {
-        int[] rows = java.util.Arrays.copyOf(PendingLimitTest.fullAttempt(), 10);
-        int[] cells = new int[pending - 32];
-        for (int k = 0; k < cells.length; k++) {
-            cells[k] = Asm.put(2, k);
-        }
-        ThriftNode x = Asm.sealed(Asm.held(Asm.join(rows, cells, tail)));
+        int[] code = Asm.join(PendingLimitTest.allRows(), PendingLimitTest.cells(pending - 32), tail);
+        ThriftNode x = Asm.sealed(Asm.held(code));
         Asm.slots(x, 8, 500, 16);
-        Due.is("it waits", x.state(5), 10 + cells.length + tail.length);
+        Due.is("it waits", x.state(5), code.length);
         return x;
     }
 
@@ -148,17 +144,13 @@ final class CommitEdges {
         Due.is("state(4)", y.state(4), 38);
     }
 
-    /** Here the cells come first, and 22 words of the rows 0, 1 and 2 behind them. */
+    /** Here row 3 has no word pending before the 38th. */
     private static void storeAtTheLimit() {
-        int[] cells = new int[16];
-        for (int k = 0; k < 16; k++) {
-            cells[k] = Asm.put(2, k);
-        }
-        // Goes round seven times with three words: 16 and 21.
+        // Goes round seven times with three words: 21, and 16 cells.
         int[] rows = Asm.code(Asm.set(2, 1), Asm.set(3, 7), Asm.store(2, 0, 3), Asm.store(2, 1, 3), Asm.store(2, 2, 3),
             Asm.sub(3, 3, 2), Asm.zero(3, 8), Asm.go(2));
-        ThriftNode x = Asm.sealed(Asm.held(Asm.join(rows, cells, Asm.code(Asm.set(0, 50), Asm.store(0, 3, 3),
-            Asm.store(0, 3, 2), Asm.load(4, 3, 3), Asm.load(5, 3, 2)))));
+        ThriftNode x = Asm.sealed(Asm.held(Asm.join(rows, PendingLimitTest.cells(16), Asm.code(Asm.set(0, 50),
+            Asm.store(0, 3, 3), Asm.store(0, 3, 2), Asm.load(4, 3, 3), Asm.load(5, 3, 2)))));
         Asm.slots(x, 6, 500, 16);
         Due.is("it waits", x.state(5), 29);
         Asm.registers(x, "the 38th and the 39th", 50, 0, 1, 0, 50, 0, 0, 0);
@@ -190,13 +182,9 @@ final class CommitEdges {
 
     private static void popOfAKeptQueue() {
         for (int cells : new int[] {4, 5}) {
-            int[] rows = java.util.Arrays.copyOf(PendingLimitTest.fullAttempt(), 10);
-            int[] puts = new int[cells];
-            for (int k = 0; k < cells; k++) {
-                puts[k] = Asm.put(2, k);
-            }
             ThriftNode x = Asm.sealed(Asm.code(Asm.set(0, 50), Asm.push(0, 0), Asm.end(1)),
-                Asm.held(Asm.join(rows, puts, Asm.code(Asm.set(7, 5), Asm.set(4, 9), Asm.pop(4, 0)))));
+                Asm.held(Asm.join(PendingLimitTest.allRows(), PendingLimitTest.cells(cells),
+                    Asm.code(Asm.set(7, 5), Asm.set(4, 9), Asm.pop(4, 0)))));
             Asm.slots(x, 9, 500, 16);
             boolean done = cells == 4;
             Due.is(cells + " cells: register(4)", x.register(4), done ? 50 : 9);

@@ -25,10 +25,19 @@ final class Edge {
         }
         for (Case one : cases) {
             int before = Due.wrong();
-            one.run();
+            hold(one);
             if (Due.wrong() != before) {
                 System.out.println("  broken there: " + sentence);
             }
+        }
+    }
+
+    /** An exception that no case looks for is a wrong answer as well, and the cases behind it are still run. */
+    private static void hold(Case one) {
+        try {
+            one.run();
+        } catch (RuntimeException e) {
+            Due.is("a call", "throws." + e.getClass().getSimpleName(), "no exception");
         }
     }
 

@@ -2,6 +2,8 @@
 final class InstructionEdges {
     private static final int LEAST = Integer.MIN_VALUE;
     private static final int MOST = Integer.MAX_VALUE;
+    // SET, 16 times round with four, SEND and ZERO once more, PUT and END.
+    private static final int STEPS_OF_SENDS_ALL = 1 + 16 * 4 + 2 + 2;
 
     private InstructionEdges() {
     }
@@ -210,8 +212,6 @@ final class InstructionEdges {
         return Asm.code(Asm.set(1, 1), Asm.send(0), Asm.zero(7, 5), Asm.add(0, 0, 1), Asm.go(1), Asm.put(0, 0),
             Asm.end(next));
     }
-
-    private static final int STEPS_OF_SENDS_ALL = 1 + 16 * 4 + 2 + 2;
 
     private static void sixteenFrames() {
         ThriftNode x = Asm.sealed(sendsAll(0));

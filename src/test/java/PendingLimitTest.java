@@ -18,12 +18,12 @@ public final class PendingLimitTest {
     }
 
     /** All 32 words of the rows become pending, word k of each with k, by 65 steps that cost 97. */
-    private static int[] allRows() {
+    static int[] allRows() {
         return Asm.code(Asm.set(2, 1), Asm.set(3, 8), Asm.store(1, 0, 1), Asm.store(1, 1, 1), Asm.store(1, 2, 1),
             Asm.store(1, 3, 1), Asm.add(1, 1, 2), Asm.sub(3, 3, 2), Asm.zero(3, BEHIND_ROWS), Asm.go(2));
     }
 
-    private static int[] cells(int n) {
+    static int[] cells(int n) {
         int[] puts = new int[n];
         for (int k = 0; k < n; k++) {
             puts[k] = Asm.put(2, k);

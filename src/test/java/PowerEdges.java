@@ -1,5 +1,8 @@
 /** The boundaries that the terms name for THE POWER FAILS. */
 final class PowerEdges {
+    private static final int[] EIGHT = {Asm.set(0, 1), Asm.set(1, 1), Asm.set(2, 1), Asm.set(3, 1), Asm.set(4, 1),
+        Asm.set(5, 1), Asm.set(6, 1), Asm.set(7, 1)};
+
     private PowerEdges() {
     }
 
@@ -18,9 +21,6 @@ final class PowerEdges {
         Asm.states(x, when, Asm.OFF, x.state(1), x.state(2), 0, 0, 0, -1, failed);
         Asm.registers(x, when, new int[8]);
     }
-
-    private static final int[] EIGHT = {Asm.set(0, 1), Asm.set(1, 1), Asm.set(2, 1), Asm.set(3, 1), Asm.set(4, 1),
-        Asm.set(5, 1), Asm.set(6, 1), Asm.set(7, 1)};
 
     private static void inRun() {
         ThriftNode x = Asm.sealed(Asm.held(Asm.join(EIGHT, Asm.code(Asm.put(0, 0)))));

@@ -2,6 +2,8 @@
 final class PromiseEdges {
     private static final int LEAST = Integer.MIN_VALUE;
     private static final int MOST = Integer.MAX_VALUE;
+    private static final int[] EIGHT = {Asm.set(0, 10), Asm.set(1, 11), Asm.set(2, 12), Asm.set(3, 13),
+        Asm.set(4, 14), Asm.set(5, 15), Asm.set(6, 16), Asm.set(7, 17)};
 
     private PromiseEdges() {
     }
@@ -509,9 +511,6 @@ final class PromiseEdges {
         }
     }
 
-    private static final int[] EIGHT = {Asm.set(0, 10), Asm.set(1, 11), Asm.set(2, 12), Asm.set(3, 13),
-        Asm.set(4, 14), Asm.set(5, 15), Asm.set(6, 16), Asm.set(7, 17)};
-
     private static void wrongRegisters() {
         ThriftNode x = Asm.ran(EIGHT);
         Asm.registers(x, "eight", 10, 11, 12, 13, 14, 15, 16, 17);
@@ -531,8 +530,7 @@ final class PromiseEdges {
         y.slot(500);
         Due.is("AIR", y.state(0), Asm.AIR);
         Asm.registers(y, "AIR", new int[9]);
-        ThriftNode z = Asm.sealed(Asm.join(EIGHT, java.util.Arrays.copyOfRange(PendingLimitTest.fullAttempt(), 10, 16),
-            Asm.code(Asm.end(0))));
+        ThriftNode z = Asm.sealed(Asm.join(EIGHT, PendingLimitTest.cells(6), Asm.code(Asm.end(0))));
         // 15 in RUN, 16 to MARK; then the replay has 9.
         Asm.stepsAndCut(z, 15 + 17, 500);
         Asm.registers(z, "a replay is to come", new int[9]);

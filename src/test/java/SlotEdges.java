@@ -39,8 +39,8 @@ final class SlotEdges {
     }
 
     private static void upToTheMost() {
-        ThriftNode x = offWith(2000);
-        Due.is("state(1)", x.state(1), 2000);
+        Due.is("just the most: state(1)", offWith(2000).state(1), 2000);
+        Due.is("and no more: state(1)", offWith(2001).state(1), 2000);
     }
 
     /** A task is given up, so what is harvested stays. */

@@ -364,6 +364,7 @@ final class StepEdges {
         x.slot(500);
         Asm.states(x, "COMMIT", Asm.COMMIT, 424, 1, 16, 0, 0);
         Asm.wears(x, "nothing is written yet", 0, 0, 0, 0);
+        Asm.wears(x, "nor in the list", Asm.LIST, 0, 0);
         Due.is("register(7)", x.register(7), 4);
         ThriftNode y = Asm.sealed(Asm.join(Asm.times(16, Asm.set(7, 4)), Asm.code(Asm.end(0))));
         y.slot(500);
