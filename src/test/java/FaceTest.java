@@ -31,6 +31,7 @@ public final class FaceTest {
 
     public static void main(String[] args) throws IOException {
         face();
+        documentHasTheSameFace();
         fields();
         classesInside();
         text();
@@ -67,6 +68,25 @@ public final class FaceTest {
         Due.is("constructors", constructors.length, 1);
         Due.is("its parameters", constructors[0].getParameterCount(), 0);
         Due.is("it is public", Modifier.isPublic(constructors[0].getModifiers()), true);
+    }
+
+    /** FACE in the document's words: a method's head without the parameters' names. */
+    private static void documentHasTheSameFace() throws IOException {
+        String document = Files.readString(Path.of("../shared/DOC.md"));
+        int at = document.indexOf("public final class ThriftNode {\n");
+        String block = document.substring(at, document.indexOf("```", at));
+        Set<String> told = new TreeSet<>();
+        for (String line : block.split("\n")) {
+            if (line.contains("(") && !line.contains("ThriftNode(")) {
+                String head = line.trim().replaceAll("^public |;$", "").replaceAll("(int|boolean) \\w+(?=[,)])", "$1");
+                int throwsAt = head.indexOf(" throws ");
+                told.add(throwsAt < 0 ? head + " []"
+                    : head.substring(0, throwsAt) + " [" + head.substring(throwsAt + " throws ".length()) + "]");
+            }
+        }
+        Due.is("the document's methods", told.toString(), new TreeSet<>(Arrays.asList(FACE)).toString());
+        Due.is("its constant", block.contains("    public static final int NONE = " + ThriftNode.NONE + ";\n"), true);
+        Due.is("its constructor", block.contains("    public ThriftNode();\n"), true);
     }
 
     private static void fields() {
